@@ -237,20 +237,7 @@ public final class PackedWords {
         if (what < 0 || what > 3) {
             throw new IllegalArgumentException("what is 0 to 3");
         }
-        int outcome = tryToAdd();
-        if (what == 0) {
-            return outcome;
-        }
-        if (outcome != WOULD_BE_ADDED) {
-            return NONE;
-        }
-        if (what == 1) {
-            return trial.usedCells() - table.usedCells();
-        }
-        if (what == 2) {
-            return trial.moved - table.moved;
-        }
-        return trial.ends.kept() - table.ends.kept() + 100;
+        return costOfTrial(tryToAdd(), what);
     }
 
     public int ifPacked() {
@@ -277,8 +264,9 @@ public final class PackedWords {
                 hash = mix(hash, word(rank, at));
             }
         }
+        int outcome = tryToAdd();
         for (int what = 0; what <= 3; what++) {
-            hash = mix(hash, ifAdded(what));
+            hash = mix(hash, costOfTrial(outcome, what));
         }
         hash = mix(hash, trial.packFrom(table));
         hash = mix(hash, bitsOf(fullness()));
@@ -343,6 +331,23 @@ public final class PackedWords {
         }
         trial.copyFrom(table);
         return trial.insert(buffer) == NONE ? IS_REFUSED : WOULD_BE_ADDED;
+    }
+
+    /** Tells what ifAdded promises, once tryToAdd has answered with the outcome. */
+    private int costOfTrial(int outcome, int what) {
+        if (what == 0) {
+            return outcome;
+        }
+        if (outcome != WOULD_BE_ADDED) {
+            return NONE;
+        }
+        if (what == 1) {
+            return trial.usedCells() - table.usedCells();
+        }
+        if (what == 2) {
+            return trial.moved - table.moved;
+        }
+        return trial.ends.kept() - table.ends.kept() + 100;
     }
 
     private void saveState() {
@@ -468,9 +473,9 @@ public final class PackedWords {
 
         private int placeFor(long text) {
             int lowestFree = NONE;
-            for (int place = 0; place < PLACES; place++) {
-                if (at(uses, place) > 0) {
-                    if (textAt(place) == text) {
+            for (int place = 0; place < uses.length && place < texts.length; place++) {
+                if (uses[place] > 0) {
+                    if (texts[place] == text) {
                         return place;
                     }
                 } else if (lowestFree == NONE) {
@@ -492,8 +497,8 @@ public final class PackedWords {
 
         int kept() {
             int kept = 0;
-            for (int place = 0; place < PLACES; place++) {
-                if (at(uses, place) > 0) {
+            for (int place = 0; place < uses.length; place++) {
+                if (uses[place] > 0) {
                     kept++;
                 }
             }
@@ -502,8 +507,8 @@ public final class PackedWords {
 
         int letters() {
             int letters = 0;
-            for (int place = 0; place < PLACES; place++) {
-                letters += Texts.lengthOf(textAt(place));
+            for (int place = 0; place < texts.length; place++) {
+                letters += Texts.lengthOf(texts[place]);
             }
             return letters;
         }
@@ -605,6 +610,7 @@ public final class PackedWords {
             if (at(kind, wanted) == FREE) {
                 return cell;
             }
+            // beyond the table stands no rival
             int rival = at(parent, wanted);
             if (rival == NONE || childrenOf(rival) >= childrenOf(cell) + 1) {
                 return moveChildren(cell, 1 << letter) ? cell : NONE;
@@ -633,7 +639,9 @@ public final class PackedWords {
             }
             for (int letter = 0; letter <= LETTERS; letter++) {
                 if ((letters >> letter & 1) != 0) {
-                    moveCell(from + letter, to + letter);
+                    handChildrenOver(from + letter, to + letter);
+                    copyCell(from + letter, to + letter);
+                    clearCell(from + letter);
                     moved++;
                 }
             }
@@ -641,13 +649,16 @@ public final class PackedWords {
             return true;
         }
 
-        private void moveCell(int from, int to) {
+        private void handChildrenOver(int from, int to) {
             for (int letter = 0; letter <= LETTERS; letter++) {
                 int grandchild = at(offset, from) + letter;
                 if (at(parent, grandchild) == from) {
                     put(parent, grandchild, to);
                 }
             }
+        }
+
+        private void copyCell(int from, int to) {
             put(kind, to, at(kind, from));
             put(parent, to, at(parent, from));
             put(byLetter, to, at(byLetter, from));
@@ -655,7 +666,6 @@ public final class PackedWords {
             put(place, to, at(place, from));
             put(children, to, at(children, from));
             put(below, to, at(below, from));
-            clearCell(from);
         }
 
         /** Answers the least offset with which the cells for these letters are free, 0 if there is none. */
@@ -663,7 +673,8 @@ public final class PackedWords {
             for (int start = 1; start < CELLS; start++) {
                 boolean fits = true;
                 for (int letter = 0; letter <= LETTERS && fits; letter++) {
-                    fits = (letters >> letter & 1) == 0 || at(kind, start + letter) == FREE;
+                    int child = start + letter;
+                    fits = (letters >> letter & 1) == 0 || child < kind.length && kind[child] == FREE;
                 }
                 if (fits) {
                     return start;
@@ -805,8 +816,8 @@ public final class PackedWords {
 
         int usedCells() {
             int used = 0;
-            for (int cell = 0; cell < CELLS; cell++) {
-                if (at(kind, cell) != FREE) {
+            for (int cell = 0; cell < kind.length; cell++) {
+                if (kind[cell] != FREE) {
                     used++;
                 }
             }
@@ -815,8 +826,8 @@ public final class PackedWords {
 
         int innerCells() {
             int inner = 0;
-            for (int cell = 0; cell < CELLS; cell++) {
-                if (at(kind, cell) == INNER) {
+            for (int cell = 0; cell < kind.length; cell++) {
+                if (kind[cell] == INNER) {
                     inner++;
                 }
             }
@@ -825,8 +836,8 @@ public final class PackedWords {
 
         int greatestUsed() {
             int greatest = ROOT;
-            for (int cell = 0; cell < CELLS; cell++) {
-                if (at(kind, cell) != FREE) {
+            for (int cell = 0; cell < kind.length; cell++) {
+                if (kind[cell] != FREE) {
                     greatest = cell;
                 }
             }

@@ -1,3 +1,9 @@
+import java.lang.reflect.InvocationTargetException;
+import java.lang.reflect.Method;
+import java.lang.reflect.Modifier;
+import java.util.Arrays;
+import java.util.Comparator;
+
 /** Counts answers that are not as due; the tests' mains end with exit code 1 if there was one. */
 final class Check {
     /** A call whose answer or exception is asked for. */
@@ -5,25 +11,77 @@ final class Check {
         long run();
     }
 
+    private static String test = "";
     private static int wrong = 0;
     private static int asked = 0;
 
     private Check() {
     }
 
+    /** Runs each test of the class: its static methods without parameters, all of which say what they hold it to. */
+    static void run(Class<?> tests) {
+        Method[] methods = tests.getDeclaredMethods();
+        Arrays.sort(methods, Comparator.comparing(Method::getName));
+        int ran = 0;
+        for (Method method : methods) {
+            test = method.getName() + ": ";
+            if (method.getAnnotationsByType(Says.class).length > 0) {
+                runOne(method);
+                ran++;
+            } else if (method.getParameterCount() == 0 && method.getReturnType() == void.class
+                    && !Modifier.isPrivate(method.getModifiers())) {
+                fail("says nothing");
+            }
+        }
+        test = "";
+        System.out.println(tests.getName() + ": " + ran + " tests");
+        finish(tests.getName());
+    }
+
+    private static void runOne(Method method) {
+        int askedBefore = asked;
+        try {
+            method.invoke(null);
+        } catch (InvocationTargetException e) {
+            fail("threw " + e.getCause() + " at " + Arrays.toString(e.getCause().getStackTrace()));
+        } catch (IllegalAccessException | IllegalArgumentException e) {
+            fail("cannot be run: " + e);
+        }
+        if (asked == askedBefore) {
+            fail("asks nothing");
+        }
+    }
+
+    static void fail(String what) {
+        wrong++;
+        System.out.println(test + what);
+    }
+
     static void due(String call, long got, long want) {
         asked++;
         if (got != want) {
-            wrong++;
-            System.out.println(call + " answered " + got + ", due is " + want);
+            fail(call + " answered " + got + ", due is " + want);
+        }
+    }
+
+    static void dueTrue(String what, boolean is) {
+        asked++;
+        if (!is) {
+            fail(what + ": is not so");
+        }
+    }
+
+    static void dueText(String call, String got, String want) {
+        asked++;
+        if (!got.equals(want)) {
+            fail(call + " answered " + got + ", due is " + want);
         }
     }
 
     static void dueDouble(String call, double got, double want) {
         asked++;
         if (Double.doubleToLongBits(got) != Double.doubleToLongBits(want)) {
-            wrong++;
-            System.out.println(call + " answered " + got + ", due is " + want);
+            fail(call + " answered " + got + ", due is " + want);
         }
     }
 
@@ -32,68 +90,23 @@ final class Check {
         asked++;
         try {
             long got = it.run();
-            wrong++;
-            System.out.println(call + " answered " + got + ", due is " + want.getName());
+            fail(call + " answered " + got + ", due is " + want.getName());
         } catch (RuntimeException e) {
             if (e.getClass() != want) {
-                wrong++;
-                System.out.println(call + " threw " + e + ", due is " + want.getName());
+                fail(call + " threw " + e + ", due is " + want.getName());
             }
         }
     }
 
-    /** A call that throws must also leave the digest, which covers the whole state, and the undo states alone. */
-    static void dueThrowUnchanged(String call, PackedWords x, Call it, Class<?> want) {
-        long before = x.digest();
+    /** Also sees that the digest, which covers the whole state but for what the saved states hold, is as before. */
+    static void dueThrowUnchanged(String call, Words words, Call it, Class<?> want) {
+        long before = words.digest();
         dueThrow(call, it, want);
-        due(call + " changed nothing: digest()", x.digest(), before);
+        due(call + " changed nothing: digest()", words.digest(), before);
     }
 
-    /** Puts the word, told by its letters such as "abc", into the buffer. */
-    static void type(PackedWords x, String word) {
-        x.clearBuffer();
-        for (int i = 0; i < word.length(); i++) {
-            x.append(word.charAt(i) - 'a' + 1);
-        }
-    }
-
-    static int add(PackedWords x, String word) {
-        type(x, word);
-        return x.add();
-    }
-
-    static int remove(PackedWords x, String word) {
-        type(x, word);
-        return x.remove();
-    }
-
-    static int find(PackedWords x, String word) {
-        type(x, word);
-        return x.find();
-    }
-
-    static String wordAt(PackedWords x, int rank) {
-        StringBuilder text = new StringBuilder();
-        for (int at = 0; at <= 12 && x.word(rank, at) > 0; at++) {
-            text.append((char) ('a' + x.word(rank, at) - 1));
-        }
-        return text.toString();
-    }
-
-    static void dueWords(String when, PackedWords x, String... words) {
-        due(when + ": count(0)", x.count(0), words.length);
-        for (int rank = 0; rank < words.length; rank++) {
-            asked++;
-            if (!wordAt(x, rank).equals(words[rank])) {
-                wrong++;
-                System.out.println(when + ": the word of rank " + rank + " is " + wordAt(x, rank)
-                        + ", due is " + words[rank]);
-            }
-        }
-    }
-
-    static void finish(String test) {
-        System.out.println(test + ": " + asked + " answers, " + wrong + " not as due");
+    static void finish(String tests) {
+        System.out.println(tests + ": " + asked + " answers, " + wrong + " not as due");
         if (wrong != 0) {
             System.exit(1);
         }

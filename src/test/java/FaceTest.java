@@ -1,16 +1,13 @@
-import java.io.IOException;
 import java.lang.reflect.Constructor;
 import java.lang.reflect.Field;
 import java.lang.reflect.Method;
 import java.lang.reflect.Modifier;
-import java.nio.file.Files;
-import java.nio.file.Path;
 import java.util.ArrayList;
 import java.util.Arrays;
 import java.util.List;
 import java.util.TreeSet;
 
-/** The public face, to the letter, and those rules of LANGUAGE.md that a look at the source can tell. */
+/** The public face, to the letter. */
 public final class FaceTest {
     private static final String[] FACE = {
         "int append(int) IllegalArgumentException IllegalStateException",
@@ -36,43 +33,49 @@ public final class FaceTest {
         "long digest()",
     };
 
-    private static final String[] RULED_OUT = {"->", "::", "catch", "finally", "synchronized", "assert", "native",
-        "record ", "import static", "Double.", "Exact(", "equals(", "hashCode", "toString", "Random", "nanoTime",
-        "currentTimeMillis", "Thread"};
-
-    public static void main(String[] args) throws IOException {
-        face();
-        source();
-        Check.finish("FaceTest");
+    public static void main(String[] args) {
+        Check.run(FaceTest.class);
     }
 
-    private static void face() {
-        Check.due("NONE", PackedWords.NONE, -1);
-        Check.due("the class is public and final (1 yes)", PackedWords.class.getModifiers() & ~Modifier.PUBLIC,
-                Modifier.FINAL);
+    @Says(rule = 1, value = "the class of the document, public and final, with the public constructor, methods and constants "
+            + "of the document")
+    static void theMethodsOfTheFace() {
+        Check.due("the class's modifiers", PackedWords.class.getModifiers(), Modifier.PUBLIC | Modifier.FINAL);
         TreeSet<String> due = new TreeSet<>(Arrays.asList(FACE));
-        TreeSet<String> privates = new TreeSet<>();
         for (Method method : PackedWords.class.getDeclaredMethods()) {
             if (Modifier.isPublic(method.getModifiers())) {
-                Check.due("the face has " + signature(method) + " (1 yes)", due.remove(signature(method)) ? 1 : 0, 1);
-            } else {
-                Check.due(method + " is private (1 yes)", Modifier.isPrivate(method.getModifiers()) ? 1 : 0, 1);
-                privates.add(method.getName());
+                Check.dueTrue("the document has " + signature(method), due.remove(signature(method)));
+                Check.dueTrue(method + " is no static one", !Modifier.isStatic(method.getModifiers()));
             }
         }
         Check.due("methods of the face that are missing: " + due, due.size(), 0);
-        for (String method : FACE) {
-            String name = method.substring(method.indexOf(' ') + 1, method.indexOf('('));
-            Check.due("a private method named " + name + " (1 yes)", privates.contains(name) ? 1 : 0, 0);
-        }
-        for (Field field : PackedWords.class.getDeclaredFields()) {
-            boolean asDue = field.getName().equals("NONE") ? Modifier.isPublic(field.getModifiers())
-                    : Modifier.isPrivate(field.getModifiers());
-            Check.due(field + " is as due (1 yes)", asDue ? 1 : 0, 1);
-        }
-        Constructor<?>[] constructors = PackedWords.class.getDeclaredConstructors();
+        Constructor<?>[] constructors = PackedWords.class.getConstructors();
         Check.due("constructors", constructors.length, 1);
         Check.due("the constructor's parameters", constructors[0].getParameterCount(), 0);
+    }
+
+    @Says(rule = 1, value = "and no other public, protected or package-visible member")
+    static void allOtherMembersArePrivate() {
+        for (Method method : PackedWords.class.getDeclaredMethods()) {
+            Check.dueTrue(method + " is public or private", Modifier.isPublic(method.getModifiers())
+                    || Modifier.isPrivate(method.getModifiers()));
+        }
+        for (Field field : PackedWords.class.getDeclaredFields()) {
+            Check.dueTrue(field + " is as due", field.getName().equals("NONE") ? Modifier.isPublic(field.getModifiers())
+                    : Modifier.isPrivate(field.getModifiers()));
+        }
+        Check.due("constructors", PackedWords.class.getDeclaredConstructors().length, 1);
+    }
+
+    @Says(rule = 1, value = "No private method bears the name of a public one.")
+    static void noPrivateMethodBearsAPublicName() {
+        for (Method method : PackedWords.class.getDeclaredMethods()) {
+            if (Modifier.isPrivate(method.getModifiers())) {
+                for (String of : FACE) {
+                    Check.dueTrue(method + " has a name of its own", !of.contains(" " + method.getName() + "("));
+                }
+            }
+        }
     }
 
     private static String signature(Method method) {
@@ -86,33 +89,5 @@ public final class FaceTest {
             text.append(' ').append(type.getSimpleName());
         }
         return text.toString();
-    }
-
-    private static void source() throws IOException {
-        List<String> lines = Files.readAllLines(Path.of("src/main/java/PackedWords.java"));
-        int methodStart = 0;
-        for (int i = 0; i < lines.size(); i++) {
-            String line = lines.get(i);
-            String where = "line " + (i + 1);
-            String code = line.trim().startsWith("/") || line.trim().startsWith("*") ? "" : line;
-            for (String word : RULED_OUT) {
-                Check.due(where + " has " + word + " (1 yes)", code.contains(word) ? 1 : 0, 0);
-            }
-            if (line.startsWith("import")) {
-                Check.due(where + " is an import that is allowed (1 yes)",
-                        line.equals("import java.util.Arrays;") ? 1 : 0, 1);
-            }
-            for (char sign : line.toCharArray()) {
-                Check.due(where + " has a sign beyond 127 (1 yes)", sign > 127 ? 1 : 0, 0);
-            }
-            // a line that stands as deep as a member and opens a block begins a method
-            if (line.matches("( {4}| {8})\\w.*\\).*\\{")) {
-                methodStart = i;
-            } else if (line.matches("( {4}| {8})\\}")) {
-                Check.due(where + " ends a method of over sixty lines (1 yes)", i - methodStart > 60
-                        && line.indexOf('}') == lines.get(methodStart).length()
-                        - lines.get(methodStart).stripLeading().length() ? 1 : 0, 0);
-            }
-        }
     }
 }

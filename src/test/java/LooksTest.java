@@ -1,211 +1,499 @@
-/** Promises 10 to 18: cell, end, letter, count, find, longest, beginning, ahead, word. */
+/** Promises 13 to 18: count, find, longest, beginning, ahead, word. */
 public final class LooksTest {
+    private static final String LONGEST = "aaaaaaaaaaaa";
+
     public static void main(String[] args) {
-        cell();
-        end();
-        letter();
-        count();
-        find();
-        longest();
-        beginning();
-        ahead();
-        word();
-        Check.finish("LooksTest");
+        Check.run(LooksTest.class);
     }
 
-    /** The root's children stand at offset 1: the inner cell 2 (a), which has its own at offset 1 too, 8 (g), 9 (h). */
-    private static PackedWords some() {
-        PackedWords x = new PackedWords();
-        Check.add(x, "abcd");
-        Check.add(x, "a");
-        Check.add(x, "h");
-        Check.add(x, "gbcd");
-        x.clearBuffer();
-        return x;
+    private static void dueCount(Words x, String when, int what, int want) {
+        Check.due(when + ": count(" + what + ")", x.count(what), want);
     }
 
-    private static void cell() {
-        PackedWords x = some();
-        // abcd's end bcd is given up when a comes; cd gets its place then, and the end without letters the next one
-        int[][] due = {
-            {0, 1, -1, -1, 1, -1, 3, 4},
-            {1, 2, 2, 0, 0, 1, 0, 1},
-            {2, 1, 0, 1, 1, -1, 2, 2},
-            {3, 2, 2, 2, 0, 0, 0, 1},
-            {8, 2, 0, 7, 0, 2, 0, 1},
-            {9, 2, 0, 8, 0, 1, 0, 1},
-            {4, 0, -1, -1, 0, -1, 0, 0},
-            {159, 0, -1, -1, 0, -1, 0, 0},
-        };
-        for (int[] row : due) {
-            for (int what = 0; what <= 6; what++) {
-                Check.due("cell(" + row[0] + ", " + what + ")", x.cell(row[0], what), row[what + 1]);
-            }
+    // ---- nothing is changed
+
+    @Says("Ahead of the calls `cell`, `end`, `letter`, `count`, `find`, `longest`, `beginning`, `ahead`, `word` the "
+            + "interface says: ---- looks; nothing is changed.")
+    static void looksChangeNothing() {
+        Words x = Tables.four();
+        Words twin = Tables.four();
+        x.type("abcde");
+        twin.type("abcde");
+        for (int what = 0; what <= 9; what++) {
+            x.count(what);
         }
-        cellThrows(x);
-    }
-
-    private static void cellThrows(PackedWords x) {
-        int[] noCells = {-1, 160, -2, 1000, Integer.MIN_VALUE, Integer.MAX_VALUE};
-        int[] noWhats = {-1, 7, 1000, Integer.MIN_VALUE, Integer.MAX_VALUE};
-        for (int cell : noCells) {
-            Check.dueThrowUnchanged("cell(" + cell + ", 0)", x, () -> x.cell(cell, 0),
-                    IndexOutOfBoundsException.class);
-            for (int what : noWhats) {
-                Check.dueThrow("cell(" + cell + ", " + what + ")", () -> x.cell(cell, what),
-                        IndexOutOfBoundsException.class);
-            }
+        for (int cell = 0; cell < 160; cell += 3) {
+            x.cell(cell, cell % 7);
         }
-        for (int what : noWhats) {
-            Check.dueThrowUnchanged("cell(0, " + what + ")", x, () -> x.cell(0, what),
-                    IllegalArgumentException.class);
-            Check.dueThrow("cell(159, " + what + ")", () -> x.cell(159, what), IllegalArgumentException.class);
+        for (int place = 0; place < 40; place++) {
+            x.end(place, place % 2);
+            x.letter(place, place % 12);
+        }
+        x.find();
+        x.longest();
+        x.beginning();
+        x.ahead();
+        x.word(0, 0);
+        x.word(3, 12);
+        x.word(9, 12);
+        Check.due("digest()", x.digest(), twin.digest());
+        for (int state = 0; state < 4; state++) {
+            x.undo();
+            twin.undo();
+            Check.due("digest() of a saved state", x.digest(), twin.digest());
         }
     }
 
-    private static void end() {
-        PackedWords x = some();
-        int[][] due = {{0, 1, 2}, {1, 2, 0}, {2, 1, 3}, {3, 0, -1}, {39, 0, -1}};
-        for (int[] row : due) {
-            Check.due("end(" + row[0] + ", 0)", x.end(row[0], 0), row[1]);
-            Check.due("end(" + row[0] + ", 1)", x.end(row[0], 1), row[2]);
-        }
-        int[] noPlaces = {-1, 40, -2, 1000, Integer.MIN_VALUE, Integer.MAX_VALUE};
-        int[] noWhats = {-1, 2, 1000, Integer.MIN_VALUE, Integer.MAX_VALUE};
-        for (int place : noPlaces) {
-            Check.dueThrowUnchanged("end(" + place + ", 0)", x, () -> x.end(place, 0),
-                    IndexOutOfBoundsException.class);
-            Check.dueThrow("end(" + place + ", 2)", () -> x.end(place, 2), IndexOutOfBoundsException.class);
-        }
-        for (int what : noWhats) {
-            Check.dueThrowUnchanged("end(0, " + what + ")", x, () -> x.end(0, what), IllegalArgumentException.class);
-            Check.dueThrow("end(39, " + what + ")", () -> x.end(39, what), IllegalArgumentException.class);
-        }
-    }
+    // ---- 13 count
 
-    private static void letter() {
-        PackedWords x = some();
-        int[][] due = {{0, 0, 3}, {0, 1, 4}, {0, 2, -1}, {0, 11, -1}, {1, 0, -1}, {2, 0, 2}, {2, 1, 3}, {2, 2, 4},
-            {2, 3, -1}, {3, 0, -1}, {39, 11, -1}};
-        for (int[] row : due) {
-            Check.due("letter(" + row[0] + ", " + row[1] + ")", x.letter(row[0], row[1]), row[2]);
-        }
-        int[] noPlaces = {-1, 40, -2, 1000, Integer.MIN_VALUE, Integer.MAX_VALUE};
-        int[] noAts = {-1, 12, 16, 1000, Integer.MIN_VALUE, Integer.MAX_VALUE};
-        for (int place : noPlaces) {
-            Check.dueThrowUnchanged("letter(" + place + ", 0)", x, () -> x.letter(place, 0),
-                    IndexOutOfBoundsException.class);
-            Check.dueThrow("letter(" + place + ", 12)", () -> x.letter(place, 12), IndexOutOfBoundsException.class);
-        }
-        for (int at : noAts) {
-            Check.dueThrowUnchanged("letter(0, " + at + ")", x, () -> x.letter(0, at),
-                    IllegalArgumentException.class);
-        }
-        PackedWords y = new PackedWords();
-        Check.add(y, "abcdefghabcd");
-        for (int at = 0; at < 11; at++) {
-            Check.due("letter " + at + " of the longest end", y.letter(0, at), (at + 1) % 8 + 1);
-        }
-        Check.due("behind the longest end", y.letter(0, 11), -1);
-    }
-
-    private static void count() {
-        PackedWords x = some();
+    @Says(promise = 13, value = {"Returns a number.", "Returns the number."})
+    static void countReturnsEachNumber() {
         int[] due = {4, 6, 2, 3, 5, 0, 9, 10, 0, 4};
-        for (int what = 0; what < due.length; what++) {
-            Check.due("count(" + what + ")", x.count(what), due[what]);
+        for (int what = 0; what <= 9; what++) {
+            dueCount(Tables.four(), "four words", what, due[what]);
         }
-        Check.type(x, "abc");
-        Check.due("count(8)", x.count(8), 3);
-        int[] noWhats = {-1, 10, -2, 1000, Integer.MIN_VALUE, Integer.MAX_VALUE};
-        for (int what : noWhats) {
+        int[] full = {26, 159, 133, 2, 5, 0, 159, 307, 7, 6};
+        for (int what = 0; what <= 9; what++) {
+            dueCount(Tables.full(), "a full table", what, full[what]);
+        }
+    }
+
+    @Says(promise = 13, value = "`what`: 0: words")
+    static void count0TellsTheWords() {
+        Words x = new Words();
+        dueCount(x, "new", 0, 0);
+        x.add("ab");
+        dueCount(x, "with ab", 0, 1);
+        x.add("a");
+        dueCount(x, "with a", 0, 2);
+        x.remove("ab");
+        dueCount(x, "without ab", 0, 1);
+        x.undo();
+        dueCount(x, "with ab again", 0, 2);
+    }
+
+    @Says(promise = 13, value = "; 1: cells that are used")
+    static void count1TellsTheUsedCells() {
+        Words x = new Words();
+        dueCount(x, "new: the root", 1, 1);
+        x.add("abc");
+        dueCount(x, "a leaf", 1, 2);
+        x.add("ab");
+        dueCount(x, "an inner cell and two leaves more", 1, 5);
+        x.remove("abc");
+        dueCount(x, "a leaf less", 1, 4);
+        x.remove("ab");
+        dueCount(x, "the root", 1, 1);
+        dueCount(Tables.full(), "full: all but 1", 1, 159);
+    }
+
+    @Says(promise = 13, value = "; 2: inner ones, the root too")
+    static void count2TellsTheInnerCells() {
+        Words x = new Words();
+        dueCount(x, "new: the root", 2, 1);
+        x.add("abc");
+        dueCount(x, "the root and a leaf", 2, 1);
+        x.add("ab");
+        dueCount(x, "a and b too", 2, 3);
+        x.remove("ab");
+        dueCount(x, "a and b stay", 2, 3);
+        x.remove("abc");
+        dueCount(x, "the root", 2, 1);
+    }
+
+    @Says(promise = 13, value = "; 3: ends that are kept")
+    static void count3TellsTheEnds() {
+        Words x = new Words();
+        dueCount(x, "new", 3, 0);
+        x.add("abc");
+        x.add("bbc");
+        dueCount(x, "one end of two leaves", 3, 1);
+        x.add("h");
+        dueCount(x, "one without letters, too", 3, 2);
+        x.remove("abc");
+        dueCount(x, "both are used still", 3, 2);
+        x.remove("bbc");
+        dueCount(x, "one is not", 3, 1);
+        dueCount(Tables.allEnds(), "all", 3, 40);
+    }
+
+    @Says(promise = 13, value = "; 4: the letters of all of these together")
+    static void count4TellsTheLettersOfTheEnds() {
+        Words x = new Words();
+        dueCount(x, "new", 4, 0);
+        x.add("abc");
+        dueCount(x, "bc", 4, 2);
+        x.add("bbc");
+        dueCount(x, "bc, of two leaves", 4, 2);
+        x.add("h");
+        dueCount(x, "bc and none", 4, 2);
+        x.add("cdef");
+        dueCount(x, "def too", 4, 5);
+        x.add("c");
+        dueCount(x, "ef instead of def", 4, 4);
+        dueCount(Tables.allEnds(), "forty ends of two", 4, 80);
+    }
+
+    @Says(promise = 13, value = "; 5: cells that moved so far, one by one")
+    static void count5TellsTheCellsThatMoved() {
+        Words x = Tables.of("a", "h", "aa");
+        dueCount(x, "none", 5, 0);
+        x.add("b");
+        dueCount(x, "two at once", 5, 2);
+        x.remove("b");
+        dueCount(x, "removing moves none", 5, 2);
+        x.undo();
+        x.undo();
+        dueCount(x, "undone", 5, 0);
+        x = Tables.of("a", "aa", "b", "bb");
+        dueCount(x, "one", 5, 1);
+        x.pack();
+        dueCount(x, "one more by packing", 5, 2);
+    }
+
+    @Says(promise = 13, value = "; 6: the greatest cell that is used")
+    static void count6TellsTheGreatestUsedCell() {
+        Words x = new Words();
+        dueCount(x, "new: the root", 6, 0);
+        x.add("b");
+        dueCount(x, "b", 6, 3);
+        x.add("a");
+        dueCount(x, "a is less", 6, 3);
+        x.add("h");
+        dueCount(x, "h", 6, 9);
+        x.remove("h");
+        dueCount(x, "without h", 6, 3);
+        dueCount(Tables.full(), "full", 6, 159);
+        dueCount(Tables.fullButTheLast(), "full but the last", 6, 158);
+    }
+
+    @Says(promise = 13, value = "; 7: the letters of all words together")
+    static void count7TellsTheLettersOfTheWords() {
+        Words x = new Words();
+        dueCount(x, "new", 7, 0);
+        x.add("abc");
+        dueCount(x, "abc", 7, 3);
+        x.add("ab");
+        dueCount(x, "ab", 7, 5);
+        x.add("abcdefghabcd");
+        dueCount(x, "abcdefghabcd", 7, 17);
+        x.add("h");
+        dueCount(x, "h", 7, 18);
+        x.remove("abc");
+        dueCount(x, "without abc", 7, 15);
+    }
+
+    @Says(promise = 13, value = "; 8: the length of the buffer")
+    static void count8TellsTheLengthOfTheBuffer() {
+        Words x = new Words();
+        dueCount(x, "new", 8, 0);
+        x.type("h");
+        dueCount(x, "one letter", 8, 1);
+        x.type(LONGEST);
+        dueCount(x, "twelve", 8, 12);
+        x.add();
+        dueCount(x, "twelve, added", 8, 12);
+        x.drop();
+        dueCount(x, "eleven", 8, 11);
+        x.clearBuffer();
+        dueCount(x, "none", 8, 0);
+    }
+
+    @Says(promise = 13, value = "; 9: saved states")
+    static void count9TellsTheSavedStates() {
+        Words x = new Words();
+        dueCount(x, "new", 9, 0);
+        for (int i = 1; i <= 6; i++) {
+            x.pack();
+            dueCount(x, "call " + i, 9, i);
+        }
+        x.pack();
+        dueCount(x, "call 7", 9, 6);
+        x.undo();
+        dueCount(x, "undone", 9, 5);
+    }
+
+    @Says(promise = 13, value = "Throws `IllegalArgumentException` if what is not 0 to 9")
+    static void countThrowsForMinus1And10() {
+        Words x = Tables.four();
+        for (int what : new int[] {-1, 10, -2, 11, 1000, Integer.MIN_VALUE, Integer.MAX_VALUE}) {
             Check.dueThrowUnchanged("count(" + what + ")", x, () -> x.count(what), IllegalArgumentException.class);
         }
+        Check.due("count(0)", x.count(0), 4);
+        Check.due("count(9)", x.count(9), 4);
     }
 
-    private static void find() {
-        PackedWords x = some();
-        Check.due("find() of nothing", x.find(), -1);
-        Check.due("find a", Check.find(x, "a"), 1);
-        Check.due("find abcd", Check.find(x, "abcd"), 3);
-        Check.due("find h", Check.find(x, "h"), 9);
-        Check.due("find gbcd", Check.find(x, "gbcd"), 8);
-        String[] others = {"ab", "abc", "abcda", "b", "hh", "g", "gbcda", "gbce", "hhhhhhhhhhhh"};
-        for (String other : others) {
-            Check.due("find " + other, Check.find(x, other), -1);
-        }
-        x.clearBuffer();
-        Check.due("find() of nothing", x.find(), -1);
+    // ---- 14 find
+
+    @Says(promise = 14, value = {"Finds the word in the buffer.", "Returns its leaf"})
+    static void findReturnsTheLeaf() {
+        Words x = Tables.four();
+        Check.due("find a", x.find("a"), 1);
+        Check.due("find abcd", x.find("abcd"), 3);
+        Check.due("find gbcd", x.find("gbcd"), 8);
+        Check.due("find h", x.find("h"), 9);
+        Words full = Tables.full();
+        Check.due("find gaaaaab in a full table", full.find("gaaaaab"), 159);
+        Check.due("find a word of twelve letters", full.find("gaaaaaaaaaaa"), 158);
     }
 
-    private static void longest() {
-        PackedWords x = some();
-        Check.due("longest() of nothing", x.longest(), -1);
-        Object[][] due = {{"a", 1}, {"ab", 1}, {"abc", 1}, {"abcd", 4}, {"abcdh", 4}, {"abcdabcdabcd", 4}, {"ac", 1},
-            {"b", -1}, {"h", 1}, {"hh", 1}, {"g", -1}, {"gbc", -1}, {"gbcd", 4}, {"gbcdg", 4}, {"gbce", -1}};
-        for (Object[] row : due) {
-            Check.type(x, (String) row[0]);
-            Check.due("longest() of " + row[0], x.longest(), (Integer) row[1]);
+    @Says(promise = 14, value = "; NONE if it is not there")
+    static void findReturnsNoneIfTheWordIsNotThere() {
+        Words x = Tables.four();
+        for (String other : new String[] {"ab", "abc", "abcda", "abce", "b", "hh", "g", "gbc", "gbcda", "gbce",
+            "hhhhhhhhhhhh"}) {
+            Check.due("find " + other, x.find(other), -1);
         }
-        PackedWords y = new PackedWords();
-        Check.add(y, "aaaaaaaaaaaa");
-        Check.due("the buffer's own word", y.longest(), 12);
-        Check.add(y, "aaaaaaaaaaa");
-        Check.type(y, "aaaaaaaaaaaa");
-        Check.due("the longer one", y.longest(), 12);
-        Check.remove(y, "aaaaaaaaaaaa");
-        Check.due("the shorter one", y.longest(), 11);
+        x.remove("a");
+        Check.due("find a, which was removed", x.find("a"), -1);
+        Check.due("find a in a new one", new Words().find("a"), -1);
     }
 
-    private static void beginning() {
-        PackedWords x = some();
-        Check.due("beginning() of nothing", x.beginning(), 4);
-        Object[][] due = {{"a", 2}, {"ab", 1}, {"abcd", 1}, {"abcda", 0}, {"ac", 0}, {"b", 0}, {"g", 1}, {"gb", 1},
-            {"gbcd", 1}, {"gbcdd", 0}, {"gc", 0}, {"h", 1}, {"hh", 0}, {"abcdabcdabcd", 0}};
-        for (Object[] row : due) {
-            Check.type(x, (String) row[0]);
-            Check.due("beginning() of " + row[0], x.beginning(), (Integer) row[1]);
-        }
-        Check.due("beginning() without words", new PackedWords().beginning(), 0);
+    @Says(promise = 14, value = ", or the buffer is empty.")
+    static void findReturnsNoneIfTheBufferIsEmpty() {
+        Check.due("find() in four", Tables.four().find(), -1);
+        Check.due("find() in none", new Words().find(), -1);
+        Words x = Tables.of("a");
+        x.drop();
+        Check.due("find() with a dropped letter", x.find(), -1);
     }
 
-    private static void ahead() {
-        PackedWords x = some();
-        Check.due("ahead() of nothing", x.ahead(), 0);
-        Object[][] due = {{"a", 0}, {"aa", 1}, {"ab", 1}, {"abcc", 1}, {"abcd", 1}, {"abcda", 2}, {"abce", 2},
-            {"ac", 2}, {"b", 2}, {"g", 2}, {"gbcd", 2}, {"gbccc", 2}, {"gbcda", 3}, {"gc", 3}, {"h", 3}, {"ha", 4},
-            {"hhhhhhhhhhhh", 4}};
-        for (Object[] row : due) {
-            Check.type(x, (String) row[0]);
-            Check.due("ahead() of " + row[0], x.ahead(), (Integer) row[1]);
-        }
-        Check.due("ahead() without words", new PackedWords().ahead(), 0);
+    // ---- 15 longest
+
+    private static void dueLongest(Words x, String word, int want) {
+        x.type(word);
+        Check.due("longest() of " + word, x.longest(), want);
     }
 
-    private static void word() {
-        PackedWords x = some();
-        Check.dueWords("words by their order", x, "a", "abcd", "gbcd", "h");
-        int[] abcd = {1, 2, 3, 4, 0, -1, -1, -1, -1, -1, -1, -1, -1};
-        int[] single = {1, 0, -1, -1, -1, -1, -1, -1, -1, -1, -1, -1, -1};
-        for (int at = 0; at <= 12; at++) {
-            Check.due("word(0, " + at + ")", x.word(0, at), single[at]);
-            Check.due("word(1, " + at + ")", x.word(1, at), abcd[at]);
-            Check.due("word(4, " + at + ")", x.word(4, at), -1);
-            Check.due("word of the greatest rank", x.word(Integer.MAX_VALUE, at), -1);
+    @Says(promise = 15, value = "Finds the longest word with which the buffer begins.")
+    static void longestFindsTheLongestOfSeveral() {
+        Words x = Tables.of("a", "ab", "abc", "abcde");
+        dueLongest(x, "abcdef", 5);
+        dueLongest(x, "abcde", 5);
+        dueLongest(x, "abcd", 3);
+        dueLongest(x, "abd", 2);
+        dueLongest(x, "ah", 1);
+    }
+
+    @Says(promise = 15, value = "with which the buffer begins.")
+    static void longestDoesNotFindWordsThatAreLongerThanTheBuffer() {
+        Words x = Tables.of("abc", "gbcd");
+        dueLongest(x, "ab", -1);
+        dueLongest(x, "gbc", -1);
+        dueLongest(x, "gbcd", 4);
+        dueLongest(x, "gbce", -1);
+        x.add("a");
+        dueLongest(x, "ab", 1);
+    }
+
+    @Says(promise = 15, value = "Returns its length")
+    static void longestReturns1To12() {
+        Words x = Tables.of(LONGEST, "h");
+        dueLongest(x, "h", 1);
+        dueLongest(x, "hhhhhhhhhhhh", 1);
+        dueLongest(x, LONGEST, 12);
+        x.add("aaaaaaaaaaa");
+        dueLongest(x, LONGEST, 12);
+        x.remove(LONGEST);
+        dueLongest(x, LONGEST, 11);
+    }
+
+    @Says(promise = 15, value = "; NONE if there is none.")
+    static void longestReturnsNoneIfThereIsNone() {
+        Words x = Tables.four();
+        Check.due("longest() of an empty buffer", x.longest(), -1);
+        dueLongest(x, "b", -1);
+        dueLongest(x, "g", -1);
+        dueLongest(x, "bcdefgh", -1);
+        dueLongest(new Words(), "a", -1);
+        Check.due("longest() of an empty buffer without words", new Words().longest(), -1);
+    }
+
+    // ---- 16 beginning
+
+    private static void dueBeginning(Words x, String word, int want) {
+        x.type(word);
+        Check.due("beginning() with " + word, x.beginning(), want);
+    }
+
+    @Says(promise = 16, value = "Counts the words that begin with the letters in the buffer.")
+    static void beginningCountsTheWordsThatBeginSo() {
+        Words x = Tables.four();
+        dueBeginning(x, "ab", 1);
+        dueBeginning(x, "abcd", 1);
+        dueBeginning(x, "abcda", 0);
+        dueBeginning(x, "ac", 0);
+        dueBeginning(x, "b", 0);
+        dueBeginning(x, "gb", 1);
+        dueBeginning(x, "gbcd", 1);
+        dueBeginning(x, "gbcdd", 0);
+        dueBeginning(x, "gc", 0);
+        dueBeginning(x, "hh", 0);
+        dueBeginning(x, "abcdabcdabcd", 0);
+    }
+
+    @Says(promise = 16, value = "Returns how many")
+    static void beginningReturnsHowMany() {
+        Words x = Tables.of("a", "ab", "abc", "abd", "b", LONGEST);
+        dueBeginning(x, "a", 5);
+        dueBeginning(x, "ab", 3);
+        dueBeginning(x, "aaaaa", 1);
+        dueBeginning(x, LONGEST, 1);
+        x.remove("abd");
+        dueBeginning(x, "ab", 2);
+        dueBeginning(Tables.full(), "a", 4);
+    }
+
+    @Says(promise = 16, value = "(all words, if it is empty).")
+    static void beginningCountsAllWordsIfTheBufferIsEmpty() {
+        dueBeginning(Tables.four(), "", 4);
+        dueBeginning(Tables.full(), "", 26);
+        dueBeginning(Tables.allEnds(), "", 40);
+        dueBeginning(Tables.of("h"), "", 1);
+        dueBeginning(new Words(), "", 0);
+    }
+
+    // ---- 17 ahead
+
+    private static void dueAhead(Words x, String word, int want) {
+        x.type(word);
+        Check.due("ahead() of " + word, x.ahead(), want);
+    }
+
+    @Says(promise = 17, value = {"Counts the words that stand ahead of the buffer in their order (by their letters one by one",
+            "Returns how many"})
+    static void aheadCountsTheWordsWithLesserLetters() {
+        Words x = Tables.four();
+        dueAhead(x, "aa", 1);
+        dueAhead(x, "abcc", 1);
+        dueAhead(x, "abce", 2);
+        dueAhead(x, "ac", 2);
+        dueAhead(x, "b", 2);
+        dueAhead(x, "gbccc", 2);
+        dueAhead(x, "gc", 3);
+        dueAhead(x, "ha", 4);
+        dueAhead(x, "hhhhhhhhhhhh", 4);
+        dueAhead(Tables.full(), "hhhhhhhhhhhh", 26);
+        dueAhead(Tables.full(), LONGEST, 0);
+    }
+
+    @Says(promise = 17, value = "; a word stands ahead of those that it begins).")
+    static void aWordStandsAheadOfThoseThatItBegins() {
+        Words x = Tables.of("a", "ab", "abc", "gbc");
+        dueAhead(x, "aa", 1);
+        dueAhead(x, "aba", 2);
+        dueAhead(x, "abca", 3);
+        dueAhead(x, "gbca", 4);
+        dueAhead(x, "gb", 3);
+        dueAhead(x, "g", 3);
+        dueAhead(Tables.of("aaaaaaaaaaa"), LONGEST, 1);
+        dueAhead(Tables.of(LONGEST), "aaaaaaaaaaa", 0);
+    }
+
+    @Says(promise = 17, value = "(the word in the buffer itself does not count).")
+    static void theWordInTheBufferDoesNotCount() {
+        Words x = Tables.four();
+        dueAhead(x, "a", 0);
+        dueAhead(x, "abcd", 1);
+        dueAhead(x, "gbcd", 2);
+        dueAhead(x, "h", 3);
+        dueAhead(Tables.of(LONGEST), LONGEST, 0);
+    }
+
+    @Says(promise = 17, value = "Counts the words that stand ahead of the buffer")
+    static void noWordStandsAheadOfAnEmptyBuffer() {
+        dueAhead(Tables.four(), "", 0);
+        dueAhead(Tables.full(), "", 0);
+        dueAhead(new Words(), "", 0);
+        dueAhead(new Words(), "hh", 0);
+    }
+
+    // ---- 18 word
+
+    @Says(promise = 18, value = {"Returns a letter of a word.", "Returns 1 to 8"})
+    static void wordReturnsEachLetter() {
+        Words x = Tables.of("abcdefgh", "ha");
+        for (int at = 0; at < 8; at++) {
+            Check.due("word(0, " + at + ")", x.word(0, at), at + 1);
         }
-        int[] noAts = {-1, 13, 16, 1000, Integer.MIN_VALUE, Integer.MAX_VALUE};
-        for (int at : noAts) {
-            Check.dueThrowUnchanged("word(0, " + at + ")", x, () -> x.word(0, at), IllegalArgumentException.class);
-            Check.dueThrow("word(9, " + at + ")", () -> x.word(9, at), IllegalArgumentException.class);
+        Check.due("word(1, 0)", x.word(1, 0), 8);
+        Check.due("word(1, 1)", x.word(1, 1), 1);
+    }
+
+    @Says(promise = 18, value = "`rank`: the rank of the word in the order, from 0")
+    static void ranksGoByTheOrderFrom0() {
+        Tables.four().dueWords("four", "a", "abcd", "gbcd", "h");
+        Tables.of("b", "ab", "h", "a", "abb", "aba", "bh").dueWords("seven", "a", "ab", "aba", "abb", "b", "bh", "h");
+        Words x = Tables.full();
+        Check.dueText("the first of a full table", x.wordAt(0), LONGEST);
+        Check.dueText("the second", x.wordAt(1), "aaaaaaaaaaab");
+        Check.dueText("the last", x.wordAt(25), "gaaaaab");
+    }
+
+    @Says(promise = 18, value = "`at`: 0 to 12, the index of the letter")
+    static void wordTakesAt0And12() {
+        Words x = Tables.of("hbcdefghabce");
+        Check.due("the first letter", x.word(0, 0), 8);
+        Check.due("the twelfth letter", x.word(0, 11), 5);
+        Check.due("the last index", x.word(0, 12), 0);
+    }
+
+    @Says(promise = 18, value = ", 0 behind the last letter")
+    static void wordReturns0BehindTheLastLetter() {
+        Words x = Tables.four();
+        Check.due("behind a", x.word(0, 1), 0);
+        Check.due("behind abcd", x.word(1, 4), 0);
+        Check.due("behind h", x.word(3, 1), 0);
+        Check.due("behind twelve letters", Tables.of(LONGEST).word(0, 12), 0);
+        Check.due("behind eleven letters", Tables.of("aaaaaaaaaaa").word(0, 11), 0);
+    }
+
+    @Says(promise = 18, value = ", NONE beyond that")
+    static void wordReturnsNoneBeyondThat() {
+        Words x = Tables.four();
+        for (int at = 2; at <= 12; at++) {
+            Check.due("a at " + at, x.word(0, at), -1);
         }
-        for (int rank : new int[] {-1, -2, Integer.MIN_VALUE}) {
-            Check.dueThrowUnchanged("word(" + rank + ", 0)", x, () -> x.word(rank, 0),
-                    IllegalArgumentException.class);
-            Check.dueThrow("word(" + rank + ", 13)", () -> x.word(rank, 13), IllegalArgumentException.class);
+        for (int at = 5; at <= 12; at++) {
+            Check.due("abcd at " + at, x.word(1, at), -1);
         }
-        PackedWords y = new PackedWords();
-        Check.add(y, "abcdefghabcd");
-        Check.due("the twelfth letter", y.word(0, 11), 4);
-        Check.due("behind the twelfth letter", y.word(0, 12), 0);
+        Check.due("eleven letters at 12", Tables.of("aaaaaaaaaaa").word(0, 12), -1);
+    }
+
+    @Says(promise = 18, value = ", or if there are not so many words.")
+    static void wordReturnsNoneIfThereAreNotSoManyWords() {
+        Words x = Tables.four();
+        for (int rank : new int[] {4, 5, 159, 1000, Integer.MAX_VALUE}) {
+            for (int at = 0; at <= 12; at++) {
+                Check.due("word(" + rank + ", " + at + ")", x.word(rank, at), -1);
+            }
+        }
+        Check.due("the last word", x.word(3, 0), 8);
+        Words none = new Words();
+        Check.due("word(0, 0) without words", none.word(0, 0), -1);
+        Check.due("word(0, 12) without words", none.word(0, 12), -1);
+    }
+
+    @Says(promise = 18, value = "Throws `IllegalArgumentException` if rank is below 0")
+    static void wordThrowsForRankMinus1() {
+        Words x = Tables.four();
+        for (int rank : new int[] {-1, -2, -1000, Integer.MIN_VALUE}) {
+            for (int at : new int[] {0, 12, -1, 13}) {
+                Check.dueThrowUnchanged("word(" + rank + ", " + at + ")", x, () -> x.word(rank, at),
+                        IllegalArgumentException.class);
+            }
+        }
+        Check.due("word(0, 0)", x.word(0, 0), 1);
+    }
+
+    @Says(promise = 18, value = ", or at is out of range")
+    static void wordThrowsForAtMinus1And13() {
+        Words x = Tables.four();
+        for (int at : new int[] {-1, 13, -2, 14, 16, 1000, Integer.MIN_VALUE, Integer.MAX_VALUE}) {
+            for (int rank : new int[] {0, 3, 4, Integer.MAX_VALUE}) {
+                Check.dueThrowUnchanged("word(" + rank + ", " + at + ")", x, () -> x.word(rank, at),
+                        IllegalArgumentException.class);
+            }
+        }
     }
 }

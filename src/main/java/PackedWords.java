@@ -12,8 +12,8 @@ public final class PackedWords {
     private static final int PLACES = 40;
     private static final int LETTERS = 8;
     private static final int LONGEST = 12;
-    /** The deepest leaf hangs by the 0 behind twelve letters. */
-    private static final int DEEPEST = LONGEST + 1;
+    /** Inner cells stand behind letters that two words had in common, so a leaf is at most twelve letters deep. */
+    private static final int DEEPEST = LONGEST;
     private static final int STATES = 6;
 
     private static final int WOULD_BE_ADDED = 0;
@@ -364,6 +364,9 @@ public final class PackedWords {
     }
 
     private void dropOldestState() {
+        if (saved.length == 0) {
+            return;
+        }
         Table oldest = saved[0];
         for (int i = 1; i < saved.length; i++) {
             saved[i - 1] = saved[i];
@@ -876,7 +879,7 @@ public final class PackedWords {
             int best = NONE;
             int cell = ROOT;
             long rest = text;
-            for (int depth = 0; depth <= LONGEST && cell != NONE; depth++) {
+            for (int depth = 0; depth <= DEEPEST && cell != NONE; depth++) {
                 if (at(kind, cell) == LEAF) {
                     return Texts.begins(rest, endOf(cell)) ? depth + Texts.lengthOf(endOf(cell)) : best;
                 }
@@ -893,7 +896,7 @@ public final class PackedWords {
         int wordsWith(long text) {
             int cell = ROOT;
             long rest = text;
-            for (int depth = 0; depth <= LONGEST && cell != NONE; depth++) {
+            for (int depth = 0; depth <= DEEPEST && cell != NONE; depth++) {
                 if (at(kind, cell) == LEAF) {
                     return Texts.begins(endOf(cell), rest) ? 1 : 0;
                 }
@@ -911,7 +914,7 @@ public final class PackedWords {
             int words = 0;
             int cell = ROOT;
             long rest = text;
-            for (int depth = 0; depth <= LONGEST && cell != NONE && rest != 0; depth++) {
+            for (int depth = 0; depth <= DEEPEST && cell != NONE && rest != 0; depth++) {
                 if (at(kind, cell) == LEAF) {
                     return Texts.isAhead(endOf(cell), rest) ? words + 1 : words;
                 }

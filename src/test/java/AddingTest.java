@@ -289,6 +289,32 @@ public final class AddingTest {
         Check.due("t's offset", z.cell(2, 3), 10);
     }
 
+    @Says("its offset becomes the least one, 1 or more, with which all cells for its children are free")
+    static void offset158IsTheLastForAChildByA() {
+        Words x = Tables.fullButTheLast();
+        // c wants 22, which is the one child of 9, by a; only 159 is free for that
+        x.dueCell("t", 9, 1, 2, 1, 21, -1, 1, 2);
+        Check.due("add abbbbbbbbbbc", x.add("abbbbbbbbbbc"), 22);
+        x.dueCell("t", 9, 1, 2, 1, 158, -1, 1, 2);
+        x.dueCell("its child", 159, 1, 9, 1);
+        Check.due("one cell moved", x.count(5), 1);
+    }
+
+    @Says("its offset becomes the least one, 1 or more, with which all cells for its children are free")
+    static void offset159IsTheLastForAChildBy0() {
+        Words x = Tables.fullButTheLastWithAChildBy0();
+        // 0 wants 1, which is the one child of g.., by 0; only 159 is free for that
+        x.dueCell("s", 7, 1, 0, 6, 1, -1, 2, 4);
+        x.dueCell("t", 8, 1, 0, 7, 1, -1, 1, 1);
+        Check.due("cells that are used", x.count(1), 159);
+        Check.due("add f", x.add("f"), 1);
+        x.dueCell("t", 8, 1, 0, 7, 159, -1, 1, 1);
+        x.dueCell("its child", 159, 2, 8, 0);
+        Check.due("one cell moved", x.count(5), 1);
+        Check.due("cells that are used", x.count(1), 160);
+        Check.dueDouble("fullness()", x.fullness(), 1.0);
+    }
+
     @Says("(cells in which its children are now are not)")
     static void tsOwnCellsAreNotFreeForIt() {
         Words x = Tables.of("a", "h", "aa");
@@ -433,6 +459,15 @@ public final class AddingTest {
     }
 
     @Says("If a cell")
+    static void aWordIsRefusedWithoutACellForALetterInCommonThoughItsLeavesHadRoom() {
+        Words x = Tables.fullButTheFirstTwo();
+        Check.dueText("free cells", x.freeCells(), "1 2");
+        // the common h needs 9 or a greater cell; the leaves by 0 and a would come to 1 and 2
+        dueRefused(x, "gh");
+        Check.due("add a, which comes to 2", x.add("a"), 2);
+    }
+
+    @Says("If a cell")
     static void aWordIsRefusedWithoutTwoCellsForTheLeaves() {
         dueRefused(Tables.fullButTheLast(), "gaaaabc");
     }
@@ -509,6 +544,8 @@ public final class AddingTest {
         Check.due("the uses of ab", x.end(1, 0), 2);
         dueRefused(x, "fac");
         dueRefused(x, "f");
+        // aa is kept already, but b is not
+        dueRefused(x, "fcaa");
         Check.due("the uses of ab", x.end(1, 0), 2);
     }
 

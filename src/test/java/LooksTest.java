@@ -296,6 +296,8 @@ public final class LooksTest {
         dueLongest(x, LONGEST, 12);
         x.remove(LONGEST);
         dueLongest(x, LONGEST, 11);
+        dueLongest(Tables.full(), LONGEST, 12);
+        dueLongest(Tables.full(), "aaaaaaaaaaa", -1);
     }
 
     @Says(promise = 15, value = "; NONE if there is none.")
@@ -342,6 +344,8 @@ public final class LooksTest {
         x.remove("abd");
         dueBeginning(x, "ab", 2);
         dueBeginning(Tables.full(), "a", 4);
+        dueBeginning(Tables.full(), LONGEST, 1);
+        dueBeginning(Tables.full(), "aaaaaaaaaaa", 2);
     }
 
     @Says(promise = 16, value = "(all words, if it is empty).")
@@ -375,6 +379,7 @@ public final class LooksTest {
         dueAhead(x, "hhhhhhhhhhhh", 4);
         dueAhead(Tables.full(), "hhhhhhhhhhhh", 26);
         dueAhead(Tables.full(), LONGEST, 0);
+        dueAhead(Tables.full(), "aaaaaaaaaaab", 1);
     }
 
     @Says(promise = 17, value = "; a word stands ahead of those that it begins).")

@@ -1,7 +1,10 @@
 import java.util.ArrayList;
 import java.util.List;
 
-/** Runs PackedWords beside PlainTable through many calls and compares every look after each. */
+/**
+ * Runs PackedWords beside PlainTable through many calls and compares every look after each. That takes more than the 512
+ * calls that are promised; the class does not count them.
+ */
 public final class ModelTest {
     private PackedWords x = new PackedWords();
     private PlainTable table = new PlainTable();

@@ -83,4 +83,39 @@ final class Tables {
         }
         return words.with("aaaaaaaaaaab", "baaaaaaaaaab", "ahaaaaaaaaab", "bbaaaaaaaaab");
     }
+
+    /**
+     * Uses the cells 1 to 158. g.. has one child, by 0, in cell 1; f.. has the offset 1 and two children, by a and b.
+     */
+    static Words fullButTheLastWithAChildBy0() {
+        Words words = of("g", "gh", "-gh", "f" + times(11, 'a'), "f" + times(11, 'b'));
+        words.with("c" + times(11, 'a'), "d" + times(11, 'a'), "e" + times(11, 'a'));
+        for (char first = 'c'; first <= 'd'; first++) {
+            words.with(first + times(11, 'b'), first + times(11, 'c'), first + times(11, 'd'));
+            words.with(first + times(10, 'd') + 'a', first + times(10, 'c') + 'a', first + times(10, 'b') + 'a');
+            words.add(first + times(10, 'a') + 'b');
+        }
+        words.with("faaaaaaaaaab", "fbbbbbbbbbba", "ebbbbbbbbbbb", "eccccccccccc");
+        return words.with("ecccccca", "ebbbbbbbbbba", "eaaaaaaaaaab");
+    }
+
+    /** Uses the cells 3 to 159. The leaf of ghaaaaaaaaaa is g's, 8. */
+    static Words fullButTheFirstTwo() {
+        Words words = new Words();
+        for (char first = 'a'; first <= 'h'; first++) {
+            words.add(first == 'g' ? "gh" + times(10, 'a') : first + times(11, 'a'));
+        }
+        for (char first = 'b'; first <= 'h'; first++) {
+            if (first != 'g') {
+                words.add(first + times(11, 'b'));
+                words.add(first + times(10, 'b') + 'a');
+                words.add(first + times(10, 'a') + 'b');
+            }
+        }
+        for (char last = 'c'; last <= 'h'; last++) {
+            words.add("h" + times(10, 'a') + last);
+        }
+        words.remove(times(12, 'a'));
+        return words;
+    }
 }

@@ -1,15 +1,31 @@
 import java.util.ArrayList;
 import java.util.List;
+import java.util.function.ToLongFunction;
 
 /**
- * Runs PackedWords beside PlainTable through many calls and compares every look after each. That takes more than the 512
- * calls that are promised; the class does not count them.
+ * Runs PackedWords beside PlainTable through the 512 calls of an object. The digest is compared after each step; all
+ * looks are compared now and then, on objects to which the run's calls so far are made again, for no object has calls
+ * enough for them.
  */
 public final class ModelTest {
-    private PackedWords x = new PackedWords();
+    private static final int RUNS = 600;
+    /** A run ends with this many of its 512 calls left over: no step needs so many, and looks have some left then. */
+    private static final int LEFT_OVER = 50;
+
+    /**
+     * Of the runs' words: how many letters they are made of, the shortest word's length, the longest one's, and how many
+     * letters of one are often left out for the next one.
+     */
+    private static final int[][] KINDS = {{8, 1, 3, 1}, {3, 1, 4, 1}, {8, 5, 5, 4}, {2, 12, 12, 1}, {5, 1, 3, 1},
+        {4, 9, 12, 1}};
+
+    private final Words x = new Words();
+    /** The calls so far that are no looks and threw nothing: all that made the state. */
+    private final List<ToLongFunction<Words>> made = new ArrayList<>();
     private PlainTable table = new PlainTable();
     private final List<PlainTable> saved = new ArrayList<>();
     private String buffer = "";
+    private int[] kind;
     private long seed;
     private String run = "";
 
@@ -20,7 +36,7 @@ public final class ModelTest {
     private static int full = 0;
 
     public static void main(String[] args) {
-        for (int run = 0; run < 150 && !Check.tooManyWrong(); run++) {
+        for (int run = 0; run < RUNS && !Check.tooManyWrong(); run++) {
             new ModelTest().go(run);
         }
         meant("a rival moved", PlainTable.rivalMoved);
@@ -47,63 +63,99 @@ public final class ModelTest {
 
     private void go(int number) {
         seed = number * 7919L + 17;
-        int[] alphabets = {8, 3, 8, 2, 5, 8};
-        int[] lengths = {3, 4, 6, 12, 3, 10};
-        int letters = alphabets[number % 6];
-        int longest = lengths[number % 6];
-        // every other run only fills its table at first
-        int filling = number % 2 == 0 ? 0 : 200;
-        int steps = filling + 60 + 20 * (number % 9);
-        for (int step = 0; step < steps && !Check.tooManyWrong(); step++) {
+        kind = KINDS[number % KINDS.length];
+        // two of three runs only fill their tables at first
+        int filling = 225 * (number / KINDS.length % 3);
+        for (int step = 0; x.callsLeft() >= LEFT_OVER && !Check.tooManyWrong(); step++) {
             run = "run " + number + ", step " + step + ": ";
-            int kind = step < filling ? 0 : next(60);
-            if (kind < 40) {
-                type(letters, longest);
-                add();
-            } else if (kind < 49) {
-                typeKnown();
-                remove();
-            } else if (kind == 49) {
-                typeStart(letters, longest);
-                removeAll();
-            } else if (kind < 53) {
-                pack();
-            } else if (kind < 56) {
-                undo();
-            } else {
-                typeStart(letters, longest);
+            boolean fills = x.callsLeft() > 512 - filling;
+            step(fills ? 0 : next(60));
+            if (!fills || step % 4 == 0) {
+                compare(next(12) == 0 || x.callsLeft() < LEFT_OVER);
             }
-            compare(step % 6 == 0 || step > steps - 3);
         }
+    }
+
+    private void step(int way) {
+        if (way < 40) {
+            type(next(12) == 0 ? any() : near());
+            add();
+        } else if (way < 49) {
+            type(known());
+            remove();
+        } else if (way == 49) {
+            typeStart();
+            removeAll();
+        } else if (way < 53) {
+            pack();
+        } else if (way < 56) {
+            undo();
+        } else {
+            typeStart();
+        }
+    }
+
+    private void change(String call, ToLongFunction<Words> it, long want) {
+        String where = run + call + " with \"" + buffer + "\"";
+        try {
+            Check.due(where, it.applyAsLong(x), want);
+            made.add(it);
+        } catch (RuntimeException e) {
+            Check.fail(where + " threw " + e + ", due is " + want);
+        }
+    }
+
+    private void thrown(String call, Check.Call it, Class<?> want) {
+        Check.dueThrow(run + call + " with \"" + buffer + "\"", it, want);
     }
 
     // ---- the buffer
 
-    private void type(int letters, int longest) {
-        clear();
-        int length = 1 + next(longest);
-        for (int i = 0; i < length; i++) {
-            append(1 + next(letters));
+    private String any() {
+        return withLetters("");
+    }
+
+    /** A word that begins as the buffer does: few calls make long ways in the table so. */
+    private String near() {
+        String word = buffer;
+        for (int tries = 0; tries < 9 && (word.equals(buffer) || table.words.contains(word)); tries++) {
+            int dropped = next(2) == 0 ? 1 + next(12) : kind[3];
+            word = withLetters(buffer.substring(0, Math.max(0, buffer.length() - dropped)));
+        }
+        return word;
+    }
+
+    private String withLetters(String start) {
+        int length = Math.max(start.length() + 1, kind[1] + next(kind[2] - kind[1] + 1));
+        StringBuilder word = new StringBuilder(start);
+        while (word.length() < Math.min(length, 12)) {
+            word.append((char) ('1' + next(kind[0])));
+        }
+        return word.toString();
+    }
+
+    private String known() {
+        List<String> words = new ArrayList<>(table.words);
+        return words.isEmpty() ? "" : words.get(next(words.size()));
+    }
+
+    private void type(String word) {
+        int half = buffer.length() / 2;
+        if (!word.startsWith(buffer.substring(0, half)) || next(20) == 0) {
+            clear();
+        }
+        while (!word.startsWith(buffer)) {
+            drop();
+        }
+        for (char letter : word.substring(buffer.length()).toCharArray()) {
+            append(letter - '0');
         }
     }
 
-    private void typeKnown() {
-        clear();
-        if (!table.words.isEmpty()) {
-            String word = new ArrayList<>(table.words).get(next(table.words.size()));
-            for (char letter : word.toCharArray()) {
-                append(letter - '0');
-            }
-        }
-    }
-
-    private void typeStart(int letters, int longest) {
-        typeKnown();
-        int way = next(3);
-        if (way == 0) {
-            type(letters, longest);
-        } else if (way == 1) {
-            append(1 + next(letters));
+    private void typeStart() {
+        type(next(3) == 0 ? any() : known());
+        if (next(3) == 0) {
+            append(1 + next(kind[0]));
         }
         for (int dropped = next(4); dropped > 0; dropped--) {
             drop();
@@ -112,23 +164,23 @@ public final class ModelTest {
 
     private void append(int letter) {
         if (buffer.length() == 12) {
-            Check.dueThrow(run + "append(" + letter + ")", () -> x.append(letter), IllegalStateException.class);
+            thrown("append(" + letter + ")", () -> x.append(letter), IllegalStateException.class);
         } else {
+            change("append(" + letter + ")", words -> words.append(letter), buffer.length() + 1);
             buffer = buffer + letter;
-            Check.due(run + "append(" + letter + ")", x.append(letter), buffer.length());
         }
     }
 
     private void clear() {
-        Check.due(run + "clearBuffer()", x.clearBuffer(), buffer.length());
+        change("clearBuffer()", Words::clearBuffer, buffer.length());
         buffer = "";
     }
 
     private void drop() {
         if (buffer.isEmpty()) {
-            Check.dueThrow(run + "drop()", () -> x.drop(), IllegalStateException.class);
+            thrown("drop()", x::drop, IllegalStateException.class);
         } else {
-            Check.due(run + "drop()", x.drop(), buffer.charAt(buffer.length() - 1) - '0');
+            change("drop()", Words::drop, buffer.charAt(buffer.length() - 1) - '0');
             buffer = buffer.substring(0, buffer.length() - 1);
         }
     }
@@ -166,27 +218,27 @@ public final class ModelTest {
 
     private void add() {
         if (buffer.isEmpty()) {
-            Check.dueThrow(run + "add()", () -> x.add(), IllegalArgumentException.class);
+            thrown("add()", x::add, IllegalArgumentException.class);
             return;
         }
         PlainTable added = table.words.contains(buffer) ? null : withBuffer();
         if (added == null) {
-            Check.dueThrow(run + "add()", () -> x.add(), IllegalStateException.class);
+            thrown("add()", x::add, IllegalStateException.class);
             return;
         }
         save(table);
         table = added;
-        Check.due(run + "add()", x.add(), table.leafOf(buffer).number);
+        change("add()", Words::add, table.leafOf(buffer).number);
     }
 
     private void remove() {
         if (buffer.isEmpty()) {
-            Check.dueThrow(run + "remove()", () -> x.remove(), IllegalArgumentException.class);
+            thrown("remove()", x::remove, IllegalArgumentException.class);
         } else if (!table.words.contains(buffer)) {
-            Check.dueThrow(run + "remove()", () -> x.remove(), IllegalStateException.class);
+            thrown("remove()", x::remove, IllegalStateException.class);
         } else {
             save(table.copy());
-            Check.due(run + "remove()", x.remove(), table.remove(buffer));
+            change("remove()", Words::remove, table.remove(buffer));
         }
     }
 
@@ -196,87 +248,133 @@ public final class ModelTest {
         for (String word : words) {
             table.remove(word);
         }
-        Check.due(run + "removeAll()", x.removeAll(), words.size());
+        change("removeAll()", Words::removeAll, words.size());
     }
 
     private void pack() {
         PlainTable packed = packed();
         if (packed == null) {
             packsRefused++;
-            Check.dueThrow(run + "pack()", () -> x.pack(), IllegalStateException.class);
+            thrown("pack()", x::pack, IllegalStateException.class);
             return;
         }
         packs++;
         save(table);
-        Check.due(run + "pack()", x.pack(), table.count(1) - packed.count(1) + 1000);
+        change("pack()", Words::pack, table.count(1) - packed.count(1) + 1000);
         table = packed;
     }
 
     private void undo() {
         if (saved.isEmpty()) {
-            Check.dueThrow(run + "undo()", () -> x.undo(), IllegalStateException.class);
+            thrown("undo()", x::undo, IllegalStateException.class);
             return;
         }
         table = saved.remove(saved.size() - 1);
-        Check.due(run + "undo()", x.undo(), saved.size());
+        change("undo()", Words::undo, saved.size());
     }
 
     // ---- comparing
 
     private long hash;
+    /** Where the looks are asked for; null while the digest alone is reckoned. */
+    private State state = null;
 
-    private void same(String call, long got, long want) {
-        Check.due(run + call + " with \"" + buffer + "\"", got, want);
-        hash = 31 * hash + want;
+    /** An object to which the calls so far are made again. */
+    private Words again() {
+        Words words = new Words();
+        for (ToLongFunction<Words> call : made) {
+            call.applyAsLong(words);
+        }
+        return words;
     }
 
-    /** Goes through the digest's list, call by call, and sees at its end whether the digest is that of the answers. */
+    /** Goes through the digest's list to reckon it; asks for each look too if it was wrong, or all are to be asked for. */
     private void compare(boolean all) {
+        state = null;
+        goThroughTheList();
+        long got = x.digest();
+        Check.due(run + "digest() with \"" + buffer + "\"", got, hash);
+        if (all || got != hash) {
+            state = new State(this::again);
+            goThroughTheList();
+            goThroughTheRest();
+        }
+    }
+
+    private void same(String call, ToLongFunction<Words> it, long want) {
+        hash = 31 * hash + want;
+        if (state != null) {
+            Check.due(run + call + " with \"" + buffer + "\"", it.applyAsLong(state.look()), want);
+        }
+    }
+
+    private void goThroughTheList() {
         hash = 2801;
         for (int what = 0; what <= 7; what++) {
-            same("count(" + what + ")", x.count(what), table.count(what));
+            compareCount(what, table.count(what));
         }
-        same("count(8)", x.count(8), buffer.length());
-        same("count(9)", x.count(9), saved.size());
-        compareCells();
-        compareEnds();
-        compareLooks();
-        compareWords(2, true);
-        compareForecasts();
-        Check.due(run + "digest()", x.digest(), hash);
-        if (all) {
-            compareWords(table.words.size() + 1, false);
-        }
-    }
-
-    private void compareCells() {
+        compareCount(8, buffer.length());
+        compareCount(9, saved.size());
         for (int cell = 0; cell < 160; cell++) {
-            boolean used = table.cells[cell] != null;
-            long before = hash;
-            same("the cell", cell, cell);
-            for (int what = 0; what <= 6; what++) {
-                same("cell(" + cell + ", " + what + ")", x.cell(cell, what), table.property(cell, what));
+            if (table.cells[cell] != null) {
+                hash = 31 * hash + cell;
+                compareCell(cell);
             }
-            hash = used ? hash : before;
+        }
+        for (int place = 0; place < 40; place++) {
+            if (table.uses[place] > 0) {
+                hash = 31 * hash + place;
+                compareEnd(place, table.ends[place]);
+            }
+        }
+        compareLooks();
+        compareWords(0, 2);
+        compareForecasts();
+        for (char letter : buffer.toCharArray()) {
+            hash = 31 * hash + (letter - '0');
         }
     }
 
-    private void compareEnds() {
-        for (int place = 0; place < 40; place++) {
-            boolean kept = table.uses[place] > 0;
-            int length = kept ? table.ends[place].length() : 0;
-            long before = hash;
-            same("the place", place, place);
-            same("end(" + place + ", 0)", x.end(place, 0), table.uses[place]);
-            same("end(" + place + ", 1)", x.end(place, 1), kept ? length : -1);
-            for (int at = 0; at < length; at++) {
-                same("letter(" + place + ", " + at + ")", x.letter(place, at), table.ends[place].charAt(at) - '0');
+    /** What the digest leaves out: free cells and places, what stands behind the ends, the words behind the third. */
+    private void goThroughTheRest() {
+        for (int cell = 0; cell < 160; cell++) {
+            if (table.cells[cell] == null) {
+                compareCell(cell);
             }
-            for (int at = length; at < 12; at++) {
-                Check.due(run + "letter(" + place + ", " + at + ")", x.letter(place, at), -1);
-            }
-            hash = kept ? hash : before;
         }
+        for (int place = 0; place < 40; place++) {
+            if (table.uses[place] == 0) {
+                compareEnd(place, null);
+            }
+            for (int at = table.uses[place] == 0 ? 0 : table.ends[place].length(); at < 12; at++) {
+                compareLetter(place, at, -1);
+            }
+        }
+        compareWords(3, table.words.size() + 1);
+    }
+
+    private void compareCount(int what, int want) {
+        same("count(" + what + ")", words -> words.count(what), want);
+    }
+
+    private void compareCell(int cell) {
+        for (int what = 0; what <= 6; what++) {
+            int property = what;
+            same("cell(" + cell + ", " + what + ")", words -> words.cell(cell, property), table.property(cell, what));
+        }
+    }
+
+    /** Without an end the place is due to be free. */
+    private void compareEnd(int place, String end) {
+        same("end(" + place + ", 0)", words -> words.end(place, 0), table.uses[place]);
+        same("end(" + place + ", 1)", words -> words.end(place, 1), end == null ? -1 : end.length());
+        for (int at = 0; end != null && at < end.length(); at++) {
+            compareLetter(place, at, end.charAt(at) - '0');
+        }
+    }
+
+    private void compareLetter(int place, int at, int want) {
+        same("letter(" + place + ", " + at + ")", words -> words.letter(place, at), want);
     }
 
     private void compareLooks() {
@@ -285,42 +383,38 @@ public final class ModelTest {
             longest = table.words.contains(buffer.substring(0, length)) ? length : longest;
         }
         PlainTable.Cell leaf = table.leafOf(buffer);
-        same("find()", x.find(), leaf == null ? -1 : leaf.number);
-        same("longest()", x.longest(), longest);
-        same("beginning()", x.beginning(), table.wordsWith(buffer).size());
-        same("ahead()", x.ahead(), table.words.headSet(buffer, false).size());
+        same("find()", Words::find, leaf == null ? -1 : leaf.number);
+        same("longest()", Words::longest, longest);
+        same("beginning()", Words::beginning, table.wordsWith(buffer).size());
+        same("ahead()", Words::ahead, table.words.headSet(buffer, false).size());
     }
 
-    private void compareWords(int lastRank, boolean inDigest) {
-        List<String> words = new ArrayList<>(table.words);
-        for (int rank = 0; rank <= lastRank; rank++) {
-            String word = rank < words.size() ? words.get(rank) : null;
+    private void compareWords(int firstRank, int lastRank) {
+        List<String> all = new ArrayList<>(table.words);
+        for (int rank = firstRank; rank <= lastRank; rank++) {
+            String word = rank < all.size() ? all.get(rank) : null;
             for (int at = 0; at <= 12; at++) {
-                int want = word == null || at > word.length() ? -1 : at == word.length() ? 0 : word.charAt(at) - '0';
-                if (inDigest) {
-                    same("word(" + rank + ", " + at + ")", x.word(rank, at), want);
-                } else {
-                    Check.due(run + "word(" + rank + ", " + at + ")", x.word(rank, at), want);
-                }
+                compareWord(rank, at, word);
             }
         }
+    }
+
+    private void compareWord(int rank, int at, String word) {
+        int want = word == null || at > word.length() ? -1 : at == word.length() ? 0 : word.charAt(at) - '0';
+        same("word(" + rank + ", " + at + ")", words -> words.word(rank, at), want);
     }
 
     private void compareForecasts() {
         boolean there = table.words.contains(buffer);
         PlainTable added = buffer.isEmpty() || there ? null : withBuffer();
         int outcome = buffer.isEmpty() ? 3 : there ? 1 : added == null ? 2 : 0;
-        same("ifAdded(0)", x.ifAdded(0), outcome);
-        same("ifAdded(1)", x.ifAdded(1), added == null ? -1 : added.count(1) - table.count(1));
-        same("ifAdded(2)", x.ifAdded(2), added == null ? -1 : added.moved - table.moved);
-        same("ifAdded(3)", x.ifAdded(3), added == null ? -1 : added.count(3) - table.count(3) + 100);
+        same("ifAdded(0)", words -> words.ifAdded(0), outcome);
+        same("ifAdded(1)", words -> words.ifAdded(1), added == null ? -1 : added.count(1) - table.count(1));
+        same("ifAdded(2)", words -> words.ifAdded(2), added == null ? -1 : added.moved - table.moved);
+        same("ifAdded(3)", words -> words.ifAdded(3), added == null ? -1 : added.count(3) - table.count(3) + 100);
         PlainTable packed = packed();
-        same("ifPacked()", x.ifPacked(), packed == null ? -1 : packed.count(1));
+        same("ifPacked()", Words::ifPacked, packed == null ? -1 : packed.count(1));
         double full = (double) table.count(1) / (table.count(6) + 1);
-        Check.dueDouble(run + "fullness()", x.fullness(), full);
-        hash = 31 * hash + Double.doubleToLongBits(full);
-        for (char letter : buffer.toCharArray()) {
-            hash = 31 * hash + (letter - '0');
-        }
+        same("the bits of fullness()", words -> Double.doubleToLongBits(words.fullness()), Double.doubleToLongBits(full));
     }
 }

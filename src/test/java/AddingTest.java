@@ -339,6 +339,20 @@ public final class AddingTest {
         x.dueWords("with a", "a", "c", "ca", "cd", "g", "h");
     }
 
+    @Says("; the children move there, by ascending letters")
+    static void theChildByTheLastLetterMovesToo() {
+        Words x = Tables.of("a", "ah", "b");
+        // h wants 9, which is ah's; a's children are two, the root's are three with h
+        x.dueCell("t", 2, 1, 0, 1, 1, -1, 2, 2);
+        Check.due("add h", x.add("h"), 9);
+        x.dueCell("h", 9, 2, 0, 8, 0, 0, 0, 1);
+        x.dueCell("t", 2, 1, 0, 1, 4, -1, 2, 2);
+        x.dueCell("its child by 0", 4, 2, 2, 0, 0, 0, 0, 1);
+        x.dueCell("its child by h", 12, 2, 2, 8, 0, 0, 0, 1);
+        Check.due("two cells moved", x.count(5), 2);
+        x.dueWords("with h", "a", "ah", "b", "h");
+    }
+
     @Says("(with all that they have; their own children have them as parents then, whose cells stay)")
     static void movedChildrenKeepWhatTheyHave() {
         Words x = Tables.of("h", "adh", "acb", "aca");
@@ -442,6 +456,21 @@ public final class AddingTest {
             Check.due("the parent of that one's child " + cell, x.cell(cell, 1), 7);
         }
         x.dueWords("with b", "a", "aa", "ab", "ac", "b");
+    }
+
+    @Says("Moving s: likewise")
+    static void sMovesWithItsChildByTheLastLetter() {
+        Words x = Tables.of("h", "hb");
+        // b wants 3, which is hb's; h's children are two, and so are the root's with b
+        x.dueCell("t", 9, 1, 0, 8, 1, -1, 2, 2);
+        Check.due("add b", x.add("b"), 4);
+        x.dueCell("s", 0, 1, -1, -1, 2, -1, 2, 3);
+        x.dueCell("its child by h", 10, 1, 0, 8, 1, -1, 2, 2);
+        x.dueCell("where that one was", 9, 0);
+        x.dueCell("h, whose cell stays", 1, 2, 10, 0);
+        x.dueCell("hb, whose cell stays", 3, 2, 10, 2);
+        Check.due("one cell moved", x.count(5), 1);
+        x.dueWords("with b", "b", "h", "hb");
     }
 
     // ---- refused words

@@ -94,11 +94,12 @@ public final class DigestTest {
 
     @Says(promise = 22, value = "the bits of fullness (as Double.doubleToLongBits);")
     static void theDigestTellsTheBitsOfFullness() {
-        // 1, 1/2, 2/3, 2/10 and 9/160, and what comes between
+        // 1, 1/2, 2/3, 2/10, 3/11 (a little above 1/4) and 9/160, and what comes between
         dueDigest("none", Words::new, "");
         dueDigest("b", () -> Tables.of("b"), "");
         dueDigest("a", () -> Tables.of("a"), "");
         dueDigest("h", () -> Tables.of("h"), "");
+        dueDigest("h moved", () -> Tables.of("h", "hb", "b", "-hb", "-b"), "");
         dueDigest("high cells", ForecastTest::highCells, "");
         dueDigest("fewer high cells", () -> ForecastTest.highCells().with("-gaaaaaaaaaaa"), "");
         for (int words = 1; words <= 40; words += 3) {

@@ -39,6 +39,20 @@ public final class PackTest {
     }
 
     @Says(promise = 8, value = "it becomes empty")
+    static void packLeavesNoLettersInPlacesThatAreFreeThen() {
+        Words x = Tables.of("abc", "bcd", "cde", "-abc", "-bcd");
+        x.pack();
+        Check.due("ends that are kept", x.count(3), 1);
+        Check.due("the letters of these: de", x.count(4), 2);
+        for (int place = 1; place <= 2; place++) {
+            Check.due("the uses of place " + place, x.end(place, 0), 0);
+            Check.due("the length at place " + place, x.end(place, 1), -1);
+            Check.due("the first letter at place " + place, x.letter(place, 0), -1);
+            Check.due("the second letter at place " + place, x.letter(place, 1), -1);
+        }
+    }
+
+    @Says(promise = 8, value = "it becomes empty")
     static void packJoinsWhatRemovingLeft() {
         Words x = Tables.of("abcd", "abc", "-abc", "b");
         Check.due("inner cells before", x.count(2), 4);
